@@ -370,7 +370,7 @@ public final class CellCover {
                 library.forgetLatest();
                 break;
             default:
-                library.cells[step - History.DROPS].there = true;
+                library.bringBack(step - History.DROPS);
                 break;
         }
     }
@@ -706,8 +706,16 @@ public final class CellCover {
         }
 
         void forgetLatest() {
-            many--;
-            cells[many].there = false;
+            if (many > 0) {
+                many--;
+                cells[many].there = false;
+            }
+        }
+
+        void bringBack(int cell) {
+            if (cell >= 0 && cell < many) {
+                cells[cell].there = true;
+            }
         }
 
         int countThere() {

@@ -18,10 +18,13 @@ public final class PromiseTest {
         types();
         cells();
         faults();
+        cellsBehindFaults();
         latestFault();
         drops();
         undos();
         undoneVertices();
+        undoOfAll();
+        undoneThenOthers();
         vertexOfs();
         verticesAsked();
         rootsAndUses();
@@ -318,6 +321,23 @@ public final class PromiseTest {
         isFault("1 1IIIIIIIIIIIab", 1, 15);
     }
 
+    /** What a text that failed has left must not be seen. */
+    private static void cellsBehindFaults() {
+        CellCover x = withInputs(1);
+        x.gate(NOT, 0, 0, 0);
+        x.output(1);
+        due("a tree without its end", cell(x, "9 9NNefNIc"), -110);
+        due("cell", cell(x, "1 1Ia"), 0);
+        due("symbols", x.about(0, 2, 0), 2);
+        due("pins", x.about(0, 3, 0), 1);
+        due("matches", x.matches(0, 1), 1);
+        x.undo();
+        due("another in its place", cell(x, "2 3NaIb"), 0);
+        due("symbols", x.about(0, 2, 0), 4);
+        due("pins", x.about(0, 3, 0), 3);
+        due("matches", x.matches(0, 1), 0);
+    }
+
     private static void latestFault() {
         CellCover x = new CellCover();
         cell(x, "0 0");
@@ -394,6 +414,7 @@ public final class PromiseTest {
         due("count(4)", x.count(4), 0);
         due("count(5)", x.count(5), 0);
         due("undo() the gate", x.undo(), 2);
+        due("count(1)", x.count(1), 2);
         due("digest() as it was", x.digest(), two);
         due("undo() an input", x.undo(), 1);
         due("count(1)", x.count(1), 1);
@@ -418,6 +439,52 @@ public final class PromiseTest {
         x.undo();
         due("only that is taken back", x.count(3), 3);
         isVertex(x, 2, 2, 1, 0);
+    }
+
+    private static void undoOfAll() {
+        CellCover x = new CellCover();
+        for (int i = 0; i < 40; i++) {
+            due("node", i % 3 == 0 ? x.input() : x.gate(i % 7, i - 1, i / 2, i / 3), i);
+        }
+        for (int i = 0; i < 8; i++) {
+            due("output", x.output(39 - i), i);
+        }
+        for (int i = 0; i < 20; i++) {
+            due("cell", cell(x, "1 1Ia"), i);
+        }
+        for (int i = 19; i >= 0; i--) {
+            due("drop", x.drop(i), 1);
+        }
+        for (int left = 87; left >= 0; left--) {
+            due("undo()", x.undo(), left);
+            due("cells", x.count(6), left >= 68 ? 88 - left : Math.max(0, left - 48));
+        }
+        due("undo() of nothing", x.undo(), NO);
+        due("digest() of nothing", x.digest(), 13);
+    }
+
+    /** Vertex 1 is an inverse at first, and an input later. */
+    private static void undoneThenOthers() {
+        CellCover x = new CellCover();
+        cell(x, "3 4Ia");
+        cell(x, "5 6Nab");
+        x.input();
+        x.gate(NOT, 0, 0, 0);
+        x.output(1);
+        due("cover(0)", x.cover(0), 0);
+        due("area", x.best(1, 0), 3);
+        x.undo();
+        x.undo();
+        x.input();
+        x.gate(NAND, 0, 1, 0);
+        x.output(2);
+        due("cover(0)", x.cover(0), 0);
+        due("area of an input", x.best(1, 0), 0);
+        due("arrival of an input", x.best(1, 1), 0);
+        due("area", x.area(), 5);
+        due("arrival", x.arrival(0), 6);
+        due("mapped(3)", x.mapped(3), 0);
+        due("mapped(1)", x.mapped(1), 1);
     }
 
     private static void vertexOfs() {
