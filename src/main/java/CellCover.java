@@ -769,19 +769,17 @@ public final class CellCover {
             skipBlanks();
             int start = place;
             int number = 0;
-            while (place < length && isDigit(bytes[place])) {
-                // A fault 1 of a number hides a fault 2 of the same number.
-                if (place - start >= MOST_DIGITS) {
-                    failAt(place, WRONG_BYTE);
-                    return number;
-                }
+            while (place - start < MOST_DIGITS && isAtDigit()) {
                 number = 10 * number + bytes[place] - '0';
                 place++;
             }
             if (place == start) {
                 failAt(place, WRONG_BYTE);
             } else if (number < least || number > most) {
+                // Told ahead of a 4th digit: its place is left of that one's.
                 failAt(start, OUT_OF_BOUNDS);
+            } else if (isAtDigit()) {
+                failAt(place, WRONG_BYTE);
             }
             return number;
         }
@@ -826,8 +824,8 @@ public final class CellCover {
             return false;
         }
 
-        private static boolean isDigit(int b) {
-            return b >= '0' && b <= '9';
+        private boolean isAtDigit() {
+            return place < length && bytes[place] >= '0' && bytes[place] <= '9';
         }
 
         private static int symbolOf(int b) {

@@ -71,13 +71,18 @@ public final class OracleTest {
         return all + (chance(20) ? " " : "");
     }
 
+    /** Mostly a small number; at times one near or beyond its bounds, or with 0s ahead. */
+    private String digits(int least) {
+        int worth = chance(90) ? least + random.nextInt(9) : random.nextInt(1200);
+        return (chance(10) ? "000".substring(random.nextInt(3)) : "") + worth;
+    }
+
     private String text() {
         int draw = random.nextInt(100);
         if (draw < 55) {
             return CELLS[random.nextInt(CELLS.length)];
         }
-        String made = (chance(90) ? 1 + random.nextInt(9) : random.nextInt(1200)) + " "
-            + (chance(90) ? random.nextInt(9) : random.nextInt(1200)) + spaced(tree(1 + random.nextInt(4)));
+        String made = digits(1) + " " + digits(0) + spaced(tree(1 + random.nextInt(4)));
         if (draw < 85 || made.isEmpty()) {
             return made;
         }

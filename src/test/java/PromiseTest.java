@@ -304,12 +304,7 @@ public final class PromiseTest {
         isFault("1 100Ia", 2, 2);
         isFault("1   999", 2, 4);
         isFault("0 100Ia", 2, 0);
-        isFault("1000 1Ia", 1, 3);
-        isFault("0001 1Ia", 1, 3);
-        isFault("1 0001Ia", 1, 5);
-        // Behind a fault 2 there must be no 1 of the same number: here there is one.
-        isFault("0000 1Ia", 1, 3);
-        isFault("1 1000Ia", 1, 5);
+        faultsOfLongNumbers();
         isFault("1 1IIIIIIIIIIIIa", 3, 15);
         isFault("1 1NNNNNNNNNNNNN", 3, 15);
         isFault("1 1 N NNNNNNNNNNN  N", 3, 19);
@@ -319,6 +314,27 @@ public final class PromiseTest {
         isFault("1 1IIIIIIIIIIII", 1, 15);
         // The tree has its end with the 12th: no 13th is due.
         isFault("1 1IIIIIIIIIIIab", 1, 15);
+    }
+
+    /** Three digits out of bounds are a 2 at the first of them, ahead of the 1 at the 4th. */
+    private static void faultsOfLongNumbers() {
+        isFault("1000 1Ia", 1, 3);
+        isFault("0010 1Ia", 1, 3);
+        isFault("  9999", 1, 5);
+        isFault("99999999", 1, 3);
+        isFault("0000 1Ia", 2, 0);
+        isFault("0000\0\0\0\0", 2, 0);
+        isFault("0001 1Ia", 2, 0);
+        isFault("  0000000", 2, 2);
+        isFault("1 0001Ia", 1, 5);
+        isFault("1 0000Ia", 1, 5);
+        isFault("1  0999Ia", 1, 6);
+        isFault("1 0100", 1, 5);
+        isFault("1 1000Ia", 2, 2);
+        isFault("1   1001", 2, 4);
+        isFault("1 9999Ia", 2, 2);
+        isFault("0000 1000Ia", 2, 0);
+        isFault("1000 1000Ia", 1, 3);
     }
 
     /** What a text that failed has left must not be seen. */

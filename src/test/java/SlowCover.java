@@ -286,12 +286,12 @@ final class SlowCover {
             if (digits.length() == 0) {
                 throw new Fault(1, start);
             }
-            if (digits.length() > 3) {
-                throw new Fault(1, start + 3);
-            }
-            int worth = Integer.parseInt(digits.toString());
+            int worth = Integer.parseInt(digits.substring(0, Math.min(3, digits.length())));
             if (worth < least || worth > most) {
                 throw new Fault(2, start);
+            }
+            if (digits.length() > 3) {
+                throw new Fault(1, start + 3);
             }
             return worth;
         }
