@@ -895,7 +895,8 @@ public final class CellCover {
         }
 
         boolean skipTo(int k) {
-            boolean found = k >= 0;
+            // No tree has more: so the loop is bounded for any k.
+            boolean found = k >= 0 && k < MOST_MATCHES;
             for (int i = 0; i <= k && found; i++) {
                 found = next();
             }

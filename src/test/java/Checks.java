@@ -43,4 +43,12 @@ final class Checks {
         typeText(x, text);
         return x.cell();
     }
+
+    static CellCover withInputs(int n) {
+        CellCover x = new CellCover();
+        for (int i = 0; i < n; i++) {
+            x.input();
+        }
+        return x;
+    }
 }

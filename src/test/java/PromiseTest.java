@@ -59,11 +59,7 @@ public final class PromiseTest {
     }
 
     private static CellCover withInputs(int n) {
-        CellCover x = new CellCover();
-        for (int i = 0; i < n; i++) {
-            x.input();
-        }
-        return x;
+        return Checks.withInputs(n);
     }
 
     /** Asks vertex(v, 0 .. 2). */
