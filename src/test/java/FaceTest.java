@@ -14,6 +14,7 @@ import java.util.regex.Pattern;
 /** The public face, and the rules of the language that a program can see. */
 public final class FaceTest {
     private static final Checks CHECKS = new Checks();
+    private static final Path DOCUMENT = Path.of("../shared/DOC.md");
     private static final String[] FACE = {
         "int input()", "int gate(int,int,int,int)", "int output(int)", "int type(long,int)", "int cell()",
         "int fault()", "int drop(int)", "int undo()", "int vertexOf(int)", "int vertex(int,int)",
@@ -33,6 +34,11 @@ public final class FaceTest {
     public static void main(String[] args) throws IOException {
         constants();
         members();
+        if (Files.isReadable(DOCUMENT)) {
+            document(Files.readString(DOCUMENT));
+        } else {
+            System.out.println(DOCUMENT + " can not be read: the face is not held against it");
+        }
         List<Class<?>> all = new ArrayList<>(List.of(CellCover.class.getDeclaredClasses()));
         all.add(CellCover.class);
         CHECKS.holds("at most twelve classes", all.size() <= 12);
@@ -89,6 +95,20 @@ public final class FaceTest {
         for (Method m : CellCover.class.getDeclaredMethods()) {
             CHECKS.holds("a name of its own: " + m, Modifier.isPublic(m.getModifiers()) || !names.contains(m.getName()));
         }
+    }
+
+    /** The face as the document has it is the one that is looked for here. */
+    private static void document(String text) {
+        String face = text.substring(text.indexOf("public final class CellCover {"));
+        TreeSet<String> told = new TreeSet<>();
+        Matcher m = Pattern.compile("public (int|long) (\\w+)\\(([^)]*)\\);").matcher(face.substring(0, face.indexOf("```")));
+        while (m.find()) {
+            String types = m.group(3).replaceAll(" \\w+(,|$) *", "$1");
+            told.add(m.group(1) + " " + m.group(2) + "(" + types + ")");
+        }
+        CHECKS.holds("the document's face " + told, told.equals(new TreeSet<>(List.of(FACE))));
+        CHECKS.holds("the document's constants",
+            face.contains("public static final int BAD = -1, NO = -2, FULL = -3, NONE = -4;"));
     }
 
     private static void classRules(Class<?> one) {

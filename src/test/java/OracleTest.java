@@ -17,16 +17,22 @@ public final class OracleTest {
         Integer.MIN_VALUE, -100, -5, -4, -3, -2, -1, 0, 1, 2, 5, 6, 7, 8, 9, 19, 20, 21, 39, 40, 41, 63, 64,
         159, 160, 161, 1000, Integer.MAX_VALUE,
     };
+    // These use each part once: what they make is not cut.
+    private static final int[] TREE_KINDS = {0, 1, 1, 2, 4, 4, 5};
     private static final String BYTES = "0123456789NIabcdefg NIab 12A\0\u00ff\t";
 
     private final Random random;
     private final CellCover x = new CellCover();
     private final SlowCover y = new SlowCover();
     private final List<String> calls = new ArrayList<>();
+    // Which nodes are parts of gates; in a run of trees, the others are taken first.
+    private final boolean[] used = new boolean[40];
+    private final boolean ofTrees;
     private boolean wrong = false;
 
     private OracleTest(int seed) {
         random = new Random(seed);
+        ofTrees = seed % 3 == 0;
     }
 
     private void same(String call, long got, long want) {
@@ -52,7 +58,30 @@ public final class OracleTest {
     /** Newer nodes more often: nets get deep. */
     private int node() {
         int nodes = x.count(0);
+        List<Integer> free = freeNodes();
+        if (ofTrees && !free.isEmpty() && chance(90)) {
+            return free.get(random.nextInt(free.size()));
+        }
         return chance(50) ? number(nodes) : nodes - 1 - number(Math.min(nodes, 4));
+    }
+
+    private List<Integer> freeNodes() {
+        List<Integer> free = new ArrayList<>();
+        for (int n = 0; n < x.count(0); n++) {
+            if (!used[n]) {
+                free.add(n);
+            }
+        }
+        return free;
+    }
+
+    /** A part of a gate: from here on it is not free. */
+    private int part() {
+        int node = node();
+        if (node >= 0 && node < used.length) {
+            used[node] = true;
+        }
+        return node;
     }
 
     private String tree(int depth) {
@@ -105,18 +134,31 @@ public final class OracleTest {
         same("cell()", x.cell(), y.cell());
     }
 
+    private void input() {
+        same("input()", x.input(), y.input());
+        freeLatest();
+    }
+
+    private void freeLatest() {
+        int latest = x.count(0) - 1;
+        if (latest >= 0) {
+            used[latest] = false;
+        }
+    }
+
     private void gate() {
-        int kind = number(7);
-        int a = node();
-        int b = node();
-        int c = node();
+        int kind = ofTrees && chance(90) ? TREE_KINDS[random.nextInt(TREE_KINDS.length)] : number(7);
+        int a = part();
+        int b = kind == 0 ? node() : part();
+        int c = kind == 6 ? part() : node();
         same("gate(" + kind + ", " + a + ", " + b + ", " + c + ")", x.gate(kind, a, b, c), y.gate(kind, a, b, c));
+        freeLatest();
     }
 
     private void change() {
         int draw = random.nextInt(100);
-        if (draw < 15) {
-            same("input()", x.input(), y.input());
+        if (draw < 15 || (ofTrees && draw < 50 && freeNodes().size() < 2)) {
+            input();
         } else if (draw < 50) {
             gate();
         } else if (draw < 60) {
